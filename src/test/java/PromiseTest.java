@@ -347,8 +347,10 @@ public final class PromiseTest {
         r.x.ratify(1);
         r.x.strike(1);
         r.x.strike(2);
+        r.text(mark(0, 1, 0, 2, 0, 9));
+        r.x.ratify(4);
         r.tape("abc");
-        int[] wanted = {2, 2, 3, 4, 1, 100, 8, 3, 1, 2, 2, 3};
+        int[] wanted = {2, 2, 3, 5, 1, 100, 10, 3, 2, 2, 3, 4};
         for (int what = 0; what < wanted.length; what++) {
             due("is " + what, r.x.is(what), wanted[what]);
         }
@@ -723,6 +725,9 @@ public final class PromiseTest {
         r.x.strike(a);
         due("the better one struck", r.x.would(1), 6);
         due("no such", r.x.would(5), -1);
+        r.text("a-20000,5;m1,3,1,0,0,1,0,0,0;");
+        // scopes: 0, 6, 8, 18 to 21
+        due("the last scope", r.x.would(5), 7);
         due("no such", r.x.would(-1), -1);
     }
 
@@ -982,6 +987,9 @@ public final class PromiseTest {
         due("no rows", r.x.row(0), -1);
         due("any numbers", r.acts("b1,-5,9999999;s77;"), 1);
         due("any numbers", r.x.row(0), 1);
+        due("0 is not less than 0", r.acts("b1,0,0;d1;"), 2);
+        due("0 is not less than 0", r.x.row(0), 0);
+        due("0 is not less than 0", r.x.ended(), -1);
         due("empty", r.acts(""), 0);
         due("empty", r.x.ended(), -1);
         due("well", r.x.fault(), -1);
@@ -1007,6 +1015,7 @@ public final class PromiseTest {
         due("ahead", r.x.personal(0, 1, -2), -2);
         r.x.strike(a);
         due("when struck", r.x.personal(0, 1, 1), 1);
+        due("of another area", r.x.personal(1, 1, 0), 5);
         due("no athlete", r.x.personal(3, 1, -1), -2);
         due("no athlete", r.x.personal(-1, 1, -1), -2);
         due("no event", r.x.personal(0, 2, -1), -2);
@@ -1118,11 +1127,17 @@ public final class PromiseTest {
         add(r, 1, 0, 10, 0, 50);
         due("holding 1", r.x.holding(1), 1);
         due("holding all", r.x.holding(-1), 7);
+        r.text("a-20000,0;");
+        int f = add(r, 0, 3, 11, 0, 60);
+        due("holding in the last scope", r.x.holding(0), 14);
+        // scopes: 0, 1, 7, 18 to 21
+        due("in all its chains", r.x.stands(f, 0), 7);
+        due("the last in its age alone", r.x.stands(f, 1), 2);
         due("holding 2", r.x.holding(2), -2);
         due("holding -2", r.x.holding(-2), -2);
         due("what", r.x.stands(0, 4), -2);
         due("what", r.x.stands(0, -1), -2);
-        due("no such", r.x.stands(5, 0), -2);
+        due("no such", r.x.stands(6, 0), -2);
         due("no such", r.x.stands(-1, 0), -2);
     }
 

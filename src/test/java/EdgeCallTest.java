@@ -55,6 +55,8 @@ public final class EdgeCallTest {
         deedsThatChangeNothing();
         backOfNone();
         deedsAfterBack();
+        backOfABan();
+        backOfATextAhead();
         CHECK.finish();
     }
 
@@ -676,6 +678,7 @@ public final class EdgeCallTest {
             due("the first text stays", r.x.is(3), 1);
             due("all days are taken back", r.x.is(5), 0);
             due("and the last", r.x.is(4) + r.x.is(9) + r.x.is(10) + r.x.mark(0, 8), 0);
+            due("and its score", r.x.points(0), 999999);
         }
     }
 
@@ -753,6 +756,54 @@ public final class EdgeCallTest {
         CHECK.that("back of none did something", State.of(r.x).equals(ahead));
         due("what was on the tape", r.x.text(), 1);
         due("one deed", r.x.is(6), 1);
+    }
+
+    // a BAN that is taken back leaves those STRUCK OUT that were so ahead of it
+    private static void backOfABan() {
+        Rig r = new Rig();
+        due("told", r.text("e0,-1;p0,0;a0,0;m0,0,0,0,0,1,0,0,0;m0,0,0,0,0,2,0,0,0;m0,0,0,0,0,3,0,0,0;m0,0,0,0,0,4,0,0,0;"), 7);
+        due("strike", r.x.strike(0), 0);
+        due("days", r.x.days(4), 4);
+        due("strike", r.x.strike(3), 4);
+        due("ban", r.x.ban(0, 0, 0), 2);
+        due("all are struck out", r.x.is(9), 4);
+        due("back", r.x.back(), 4);
+        int[] struck = {0, -1, -1, 4};
+        for (int k = 0; k < struck.length; k++) {
+            due("struck out " + k, r.x.mark(k, 11), struck[k]);
+        }
+        due("a ban of none", r.x.ban(0, 1, 1), 0);
+        due("back", r.x.back(), 4);
+        due("two still", r.x.is(9), 2);
+        due("back of a strike", r.x.back(), 3);
+        due("one still", r.x.is(9), 1);
+        due("one still", r.x.mark(0, 11), 0);
+    }
+
+    // a text that is taken back goes with its MARKS alone, wherever they are by their days
+    private static void backOfATextAhead() {
+        Rig r = new Rig();
+        due("told", r.text("e0,-1;p0,0;a0,0;"), 3);
+        due("days", r.x.days(9), 9);
+        due("marks", r.text("m0,0,0,5,0,7,0,0,0;m0,0,0,3,0,8,0,0,0;"), 2);
+        due("ratify", r.acts("r0;r1;"), 2);
+        due("marks", r.text("m0,0,0,0,0,9,0,0,0;m0,0,0,4,0,7,0,0,0;m0,0,0,9,0,1,0,0,0;"), 3);
+        due("ratify", r.acts("r2;r3;r4;"), 3);
+        due("five", r.x.chain(0, 0, 9, -1), 5);
+        for (int deeds = 8; deeds >= 6; deeds--) {
+            due("back", r.x.back(), deeds);
+        }
+        due("two", r.x.chain(0, 0, 9, -1), 2);
+        due("the text", r.x.back(), 5);
+        due("two marks", r.x.is(3), 2);
+        due("the first", r.x.chain(0, 0, 9, 0), 1);
+        due("the last", r.x.chain(0, 0, 9, 1), 0);
+        due("none behind", r.x.chain(0, 0, 9, 2), -2);
+        due("one that comes then is not ratified", r.text("m0,0,0,4,0,7,0,0,0;"), 1);
+        due("not ratified", r.x.mark(2, 10), -1);
+        due("not struck out", r.x.mark(2, 11), -1);
+        due("ratify", r.x.ratify(2), 9);
+        due("between them", r.x.chain(0, 0, 9, 1), 2);
     }
 
     // a deed behind one that was taken back takes its place

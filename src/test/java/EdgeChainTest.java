@@ -343,6 +343,10 @@ public final class EdgeChainTest {
         due("two ties", r.x.ties(0, 0, 100), 2);
         add(r, 0, 1, 6, 0, 48);
         due("two still", r.x.ties(0, 0, 100), 2);
+        Rig second = rig(100);
+        add(second, 0, 0, 1, 0, 50);
+        add(second, 0, 0, 2, 0, 50);
+        due("the second of two", second.x.ties(0, 0, 100), 1);
     }
 
     // ==== HELD, STOOD
@@ -547,6 +551,11 @@ public final class EdgeChainTest {
         due("marks", s.text(mark(0, 0, 50, 5, 51) + mark(0, 0, 50, 5, 50)), 2);
         due("ratify", s.x.ratify(1), 100);
         due("ahead by its number", s.x.would(0), 6);
+        // 0, area, place, and 18 to 21: of an age of 50, into the last scope, too; of 49 not
+        Rig old = new Rig();
+        due("told", old.text("e0,-1;p0,0;a-18250,5;a-18249,5;" + mark(0, 0, 0, 0, 1) + mark(0, 1, 0, 0, 1)), 6);
+        due("age 50", old.x.would(0), 7);
+        due("age 49", old.x.would(1), 6);
     }
 
     // ==== CHAMPION, THE TABLE
@@ -665,6 +674,11 @@ public final class EdgeChainTest {
         due("where more is better", r.text(mark(1, 1, 8, 0, 8)), 1);
         due("where more is better", r.x.duel(0, 1), 1);
         due("where more is better", r.x.duel(1, 0), 1);
+        // the first mark and the last one of all
+        Rig ends = rig(10);
+        due("marks", ends.text(mark(0, 0, 5, 0, 50) + mark(0, 1, 5, 0, 51) + mark(0, 0, 6, 0, 51) + mark(0, 1, 6, 0, 50)), 4);
+        due("by the first", ends.x.duel(0, 1), 1);
+        due("by the last", ends.x.duel(1, 0), 1);
     }
 
     // ==== PROGRESS, SINCE, WITHOUT
@@ -932,6 +946,11 @@ public final class EdgeChainTest {
         due("of the first still", r.x.holding(0), 3);
         due("strike", r.x.strike(1), 0);
         due("in none now", r.x.holding(0), 1);
+        // one of 50 years who is behind one of 49 in all other scopes
+        Rig old = new Rig();
+        due("told", old.text("e0,-1;p0,0;a-18249,0;a-18250,0;" + mark(0, 0, 0, 0, 50) + mark(0, 1, 0, 1, 60)), 6);
+        due("ratify", old.acts("r0;r1;"), 2);
+        due("in the last scope alone", old.x.holding(0), 3);
     }
 
     // "the most DAYS from one of its MARKS to the next (from the last one to k)"; "0: no MARKS"

@@ -44,6 +44,10 @@ public final class EdgeTextTest {
         sixtyThingsInNeeds();
         sixWithinOneAnother();
         aNumberInNeedsHasNoMinus();
+        bracketsOpenAndClose();
+        comparisonsAtTheSame();
+        whatBindsMoreStrongly();
+        aFaultLeavesNothingBehind();
         intsThatWrap();
         divisions();
         thingsOfAMark();
@@ -548,6 +552,131 @@ public final class EdgeTextTest {
         faultAt(Rig::score, "-1", 0);
         faultAt(Rig::score, "v--1", 2);
         holds("0-1<v", true);
+    }
+
+    // TEST: "( COND )" ; a bracket that is not closed, not open, empty, or about a SUM
+    private static void bracketsOpenAndClose() {
+        wellRead(Rig::needs, "(v=1);", 1);
+        faultAt(Rig::needs, "(v=1;", 4);
+        faultAt(Rig::needs, "((v=1);", 6);
+        faultAt(Rig::needs, "v=1);", 3);
+        faultAt(Rig::needs, "(v=1));", 5);
+        faultAt(Rig::needs, "v=1;v=1);", 7);
+        faultAt(Rig::needs, "();", 1);
+        faultAt(Rig::needs, "(v);", 2);
+        faultAt(Rig::needs, "(v+1);", 4);
+        faultAt(Rig::needs, "(v=1)+1=2;", 5);
+        faultAt(Rig::needs, "(v=1)=1;", 5);
+        faultAt(Rig::needs, "(v=1)(v=1);", 5);
+        faultAt(Rig::needs, "(v=1)v=1;", 5);
+        faultAt(Rig::needs, "(v=1)!v=1;", 5);
+        faultAt(Rig::needs, "v=(1);", 2);
+        faultAt(Rig::needs, "v=!1;", 2);
+        // one comparison, no more and no less
+        faultAt(Rig::needs, "v;", 1);
+        faultAt(Rig::needs, "v+1;", 3);
+        faultAt(Rig::needs, "v=1=1;", 3);
+        faultAt(Rig::needs, "v<1>1;", 3);
+        faultAt(Rig::needs, "v==1;", 2);
+        faultAt(Rig::needs, "v<=1;", 2);
+        faultAt(Rig::needs, "v&1=1;", 1);
+        faultAt(Rig::needs, "v=1&;", 4);
+        faultAt(Rig::needs, "v=1&&v=1;", 4);
+        faultAt(Rig::needs, "v=1||v=1;", 4);
+        faultAt(Rig::needs, "&v=1;", 0);
+        faultAt(Rig::needs, ";", 0);
+        faultAt(Rig::needs, "v=1;;", 4);
+        wellRead(Rig::needs, "v=1&v<1|v>1;", 1);
+    }
+
+    // "one of < > =", with what is less by one, the same, more by one
+    private static void comparisonsAtTheSame() {
+        boolean[][] wanted = {{true, false, false}, {false, false, true}, {false, true, false}};
+        for (int sign = 0; sign < 3; sign++) {
+            for (int left = 4; left <= 6; left++) {
+                holds(left + "<>=".substring(sign, sign + 1) + "5", wanted[sign][left - 4]);
+            }
+        }
+        holds("0-1<0", true);
+        holds("0<0", false);
+        holds("0=0", true);
+        // each that holds is as much as another
+        holds("1<2&2>1", true);
+        holds("2>1&1=1", true);
+        holds("1=1&1<2", true);
+        holds("1<2&!1=2", true);
+        holds("2>1&!1=2", true);
+        holds("!1=2&1=1", true);
+        holds("!!1=1&!1=2", true);
+        holds("1=1&1=2", false);
+        holds("1=2&1=1", false);
+        holds("1=2|1=1", true);
+        holds("1=1|1=2", true);
+        holds("1=2|2=1", false);
+    }
+
+    // COND of BOTHs of TESTs; SUM of PRODUCTs of THINGs
+    private static void whatBindsMoreStrongly() {
+        holds("1=1|1=1&1=2", true);
+        holds("1=2&1=1|1=1", true);
+        holds("1=2&(1=1|1=1)", false);
+        holds("!1=2|1=1", true);
+        holds("!(1=2|1=1)", false);
+        holds("!1=1&1=2", false);
+        holds("!(1=1&1=2)", true);
+        holds("!1=1|1=1", true);
+        holds("2+3*4=14", true);
+        holds("2*3+4=10", true);
+        holds("9-4-3=2", true);
+        holds("9-4+3=8", true);
+        holds("9-8/4=7", true);
+        holds("48/4/2=6", true);
+        holds("48/4*2=24", true);
+        holds("5*3/2=7", true);
+        holds("14=2+3*4", true);
+        holds("2=9-4-3", true);
+    }
+
+    // what a text with a FAULT had is of no weight for the next one
+    private static void aFaultLeavesNothingBehind() {
+        String[] faults = {"((((((v=1", "!!!!!!v=1", "(((", "!!!", "v=1+", "v=1&(!v=1|", "v=1;v=1;v=1;v=1;v=1;v=1;v=1;v=1;v", "1" + repeated("+1", 60)};
+        for (String fault : faults) {
+            Rig r = small();
+            due("a fault", r.needs(fault), -1);
+            faultAt(r, Rig::needs, "v=1);", 3);
+            due("six deep", r.needs("((((((v=1))))));!!!!!!v=1;"), 2);
+            due("good", r.x.good(0), -1);
+            due("a fault", r.needs(fault), -1);
+            due("a score", r.score("v" + repeated("+v", 59)), 60);
+            due("points", r.x.points(0), 60);
+            due("a fault", r.needs(fault), -1);
+            due("needs", r.needs(repeated("v=1;", 7) + "v=2;"), 8);
+            due("the eighth", r.x.good(0), 7);
+        }
+        // nor is a text that was well, however often
+        Rig r = small();
+        for (int turn = 0; turn < 12; turn++) {
+            due("sixty things", r.needs("v" + repeated("+1", 58) + "=" + (58 + turn % 2) + ";"), 1);
+            due("good", r.x.good(0), turn % 2 == 1 ? -1 : 0);
+        }
+        faultAt(r, Rig::score, "v+v*v-", 6);
+        due("a score", r.score("7"), 1);
+        due("points", r.x.points(0), 7);
+        // marks that did not come, ahead of those that are there
+        Rig s = small();
+        due("days", s.x.days(9), 9);
+        due("marks", s.text("m0,0,0,5,0,5,0,0,0;m0,0,0,3,0,6,0,0,0;"), 2);
+        due("ratify", s.acts("r0;r1;r2;"), 3);
+        faultAt(s, Rig::text, "m0,0,0,0,0,9,0,0,0;m0,0,0,4,0,9,0,0,0;m0,0,0,9,0,9,0,0,0;m0,0,0,2,0,9,0,0,0;?", 76);
+        int[] chain = {0, 2};
+        due("the chain", s.x.chain(0, 0, 9, -1), 2);
+        for (int i = 0; i < 2; i++) {
+            due("the chain at " + i, s.x.chain(0, 0, 9, i), chain[i]);
+        }
+        due("one more", s.text("m0,0,0,4,0,7,0,0,0;"), 1);
+        due("ratify", s.x.ratify(3), 9);
+        due("the chain", s.x.chain(0, 0, 9, -1), 3);
+        due("the last", s.x.chain(0, 0, 9, 2), 3);
     }
 
     /** A need of a mark with VALUE 1, WIND -1, SHOE 0, LIMIT NONE. */

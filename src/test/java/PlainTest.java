@@ -7,8 +7,9 @@ import java.util.TreeMap;
 
 /** Random runs on the class and on the plain model: each answer must be the same. */
 public final class PlainTest {
-    private static final int RUNS = 2500;
-    private static final int CALLS = 420;
+    private static final int RUNS = 5000;
+    /** An object is used for 512 calls at most; a text of 600 bytes takes some forty. */
+    private static final int CALLS = 512 - 45;
     private static final String[] QUESTIONS = {
         "fault", "is", "mark", "told", "good", "within", "chain", "record", "holders", "ties", "held", "stood", "altered",
         "list", "rank", "wished", "would", "points", "champion", "table", "placed", "duel", "progress", "since", "without",
@@ -24,6 +25,7 @@ public final class PlainTest {
     private final List<String> trail = new ArrayList<>();
     private final int mostDay;
     private final int mostValue;
+    private int calls = 0;
     private boolean differs = false;
 
     private PlainTest(long seed) {
@@ -56,7 +58,7 @@ public final class PlainTest {
 
     private void go() throws Exception {
         tell("text", setting());
-        for (int turn = 0; turn < CALLS && !differs; turn++) {
+        while (calls < CALLS && !differs) {
             int kind = random.nextInt(100);
             if (kind < 12) {
                 tell("text", random.nextInt(6) == 0 ? spoilt(items()) : items());
@@ -82,6 +84,7 @@ public final class PlainTest {
         if (args.length > 0 && !name.equals("end") && !name.equals("feed") && random.nextInt(60) == 0) {
             args[random.nextInt(args.length)] = EXTREMES[random.nextInt(EXTREMES.length)];
         }
+        calls++;
         Object[] given = Arrays.stream(args).boxed().toArray();
         Object got = MINE.get(name).invoke(mine, given);
         Object want = PLAIN.get(name).invoke(plain, given);
@@ -123,13 +126,13 @@ public final class PlainTest {
     }
 
     private void ask(String name) throws Exception {
-        int marks = Math.max(1, mine.is(3));
+        int marks = Math.max(1, plain.is(3));
         int k = random.nextInt(12) == 0 ? small(62) : random.nextInt(marks);
-        int event = random.nextInt(12) == 0 ? small(7) : random.nextInt(Math.max(1, mine.is(0)));
+        int event = random.nextInt(12) == 0 ? small(7) : random.nextInt(Math.max(1, plain.is(0)));
         int scope = random.nextInt(3) == 0 ? 0 : small(23);
         int day = someDay();
         int i = small(random.nextBoolean() ? 3 : 9);
-        int athlete = random.nextInt(12) == 0 ? small(17) : random.nextInt(Math.max(1, mine.is(2)));
+        int athlete = random.nextInt(12) == 0 ? small(17) : random.nextInt(Math.max(1, plain.is(2)));
         int what = small(5);
         switch (name) {
             case "fault": case "ended": call(name); break;
@@ -149,7 +152,7 @@ public final class PlainTest {
             case "altered": call(name, random.nextInt(9) == 0 ? small(193) : event * 32 + scope, day, someDay(), what); break;
             case "champion": call(name, day, what); break;
             case "table": call(name, small(7), day); break;
-            case "duel": call(name, athlete, random.nextInt(Math.max(1, mine.is(2)))); break;
+            case "duel": call(name, athlete, random.nextInt(Math.max(1, plain.is(2)))); break;
             case "personal": call(name, athlete, event, i); break;
             case "season": call(name, event, random.nextInt(4) == 0 ? small(56) : random.nextInt(mostDay / 365 + 1), i); break;
             case "at": call(name, event, scope, day, random.nextInt(9) == 0 ? small(1442) : random.nextInt(4)); break;
@@ -164,12 +167,12 @@ public final class PlainTest {
     }
 
     private int someDay() {
-        int today = mine.is(5);
+        int today = plain.is(5);
         return random.nextInt(14) == 0 ? small(20002) : random.nextInt(3) == 0 ? today : random.nextInt(today + 1);
     }
 
     private int someMark() {
-        return random.nextInt(14) == 0 ? small(62) : random.nextInt(Math.max(1, mine.is(3)));
+        return random.nextInt(14) == 0 ? small(62) : random.nextInt(Math.max(1, plain.is(3)));
     }
 
     // ---- texts
@@ -204,10 +207,10 @@ public final class PlainTest {
             case 'a': return "a" + (random.nextInt(30) == 0 ? random.nextInt(20001) : -random.nextInt(25000)) + "," + random.nextInt(6) + ";";
             default: break;
         }
-        int today = mine.is(5);
+        int today = plain.is(5);
         int day = random.nextInt(40) == 0 ? today + 1 : random.nextInt(today + 1);
-        return "m" + random.nextInt(Math.max(1, mine.is(0))) + "," + random.nextInt(Math.max(1, mine.is(2))) + ","
-            + random.nextInt(Math.max(1, mine.is(1))) + "," + day + "," + random.nextInt(3) + "," + (1 + random.nextInt(mostValue))
+        return "m" + random.nextInt(Math.max(1, plain.is(0))) + "," + random.nextInt(Math.max(1, plain.is(2))) + ","
+            + random.nextInt(Math.max(1, plain.is(1))) + "," + day + "," + random.nextInt(3) + "," + (1 + random.nextInt(mostValue))
             + "," + (random.nextInt(60) - 30) + "," + random.nextInt(100) + "," + random.nextInt(64) + ";";
     }
 

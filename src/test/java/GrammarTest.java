@@ -6,7 +6,7 @@ import java.util.Set;
 /**
  * FAULT by its own words: the first byte with which no such text goes on. The grammars stand here as rows of
  * productions, and all that a text may still become is held as a set, so that no reader is written a second time.
- * Every beginning of a text up to some length is tried with every byte behind it.
+ * Every beginning of a text up to some length that chosen signs make is tried, with every byte that can't follow.
  */
 public final class GrammarTest {
     private static final Check CHECK = new Check("GrammarTest");
